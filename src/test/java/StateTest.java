@@ -191,8 +191,33 @@ final class StateTest {
         tallies("a dip in its middle", dip, "2010000000");
         dip.bar(100);
         tallies("a dip at 100", dip, "2210000000");
+        tallies("a share of 1", mixerWithShareOf1(), "0220020000");
+        VisionMixer green = new VisionMixer();
+        green.next(15);
+        for (int keyer = 0; keyer < 3; keyer++) {
+            green.key(keyer, 7, 100, 99);
+        }
+        tallies("a share of 1 behind completing", green, "0210000100");
+        green.cut();
+        shares("it is completed", green, false, 2, 1, 7, 999999);
         Check.refused("tally(-1)", mixer, INDEX, () -> mixer.tally(-1));
         Check.refused("tally(10)", mixer, INDEX, () -> mixer.tally(10));
+    }
+
+    /** Source 1 has 1000 of the background, and the keyer takes 9990 of 10000 of it. */
+    private static VisionMixer mixerWithShareOf1() {
+        VisionMixer mixer = new VisionMixer();
+        mixer.next(3);
+        mixer.key(0, 5, 100, 100);
+        mixer.bar(999);
+        Check.due("share(1, false)", mixer.share(1, false), 1);
+        Check.due("redWithout() of another act", redWithoutAnIdleAct(mixer), 1 << 1 | 1 << 2 | 1 << 5);
+        return mixer;
+    }
+
+    private static int redWithoutAnIdleAct(VisionMixer mixer) {
+        mixer.fault(9, true);
+        return mixer.redWithout(mixer.setting(8) - 1);
     }
 
     private static void promise17Faulty() {

@@ -59,6 +59,9 @@ final class TextTest {
         VisionMixer longest = new VisionMixer();
         Check.due("120 bytes", Check.carried(longest, "c;".repeat(60)), 60);
         Check.due("60 acts", longest.setting(8), 60);
+        for (int act = 0; act < 60; act++) {
+            Check.due("act(" + act + ", 1)", longest.act(act, 1), 6);
+        }
     }
 
     private static void promise31EachOrder() {
