@@ -203,14 +203,18 @@ public final class VisionMixer {
 
     public int takeOut(int act) throws IndexOutOfBoundsException {
         checkAct(act);
-        return takeOutOfLog(act);
+        log.remove(act);
+        replayPresent();
+        return log.size();
     }
 
     public int undo() throws IllegalStateException {
         if (log.size() == 0) {
             throw new IllegalStateException();
         }
-        return takeOutOfLog(log.size() - 1);
+        log.remove(log.size() - 1);
+        replayPresent();
+        return log.size();
     }
 
     public int redWithout(int act) throws IndexOutOfBoundsException {
@@ -337,11 +341,10 @@ public final class VisionMixer {
         replay.goTo(log, time, without);
     }
 
-    private int takeOutOfLog(int act) {
-        log.remove(act);
-        replayTo(now.time, NONE);
+    private void replayPresent() {
+        replay.begin();
+        replay.goTo(log, now.time, NONE);
         now.copy(replay.mix);
-        return log.size();
     }
 
     /** The replay must have begun, and must not be behind that time. */
